@@ -151,6 +151,10 @@ public final class PromisesTest {
         due("count(0)", x.count(0), 9);
         due("setRoom(5)", x.setRoom(5), 9);
         due("enter(34, 1)", x.enter(34, 1), TOO_MANY);
+        x = new RopedHalls();
+        x.enter(0, 3);
+        due("setRoom(2)", x.setRoom(2), NOT_POSSIBLE);
+        due("setRoom(3)", x.setRoom(3), 6);
     }
 
     private static void rope() {
@@ -264,7 +268,9 @@ public final class PromisesTest {
         due("guard(26, -1) again", x.guard(26, -1), 3);
         due("count(11)", x.count(11), 1);
         due("count(13)", x.count(13), 5);
+        due("guard(0, 3)", x.guard(0, 3), 3);
         due("guard(34, 0)", x.guard(34, 0), 0);
+        due("count(11)", x.count(11), 3);
         due("cell(34, 2)", x.cell(34, 2), 10);
         due("cell(33, 1) has no guard", x.cell(33, 1), 3);
         for (int cell : NO_CELLS) {
