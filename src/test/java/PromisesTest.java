@@ -1,18 +1,5 @@
 /** Each promise of the document by itself: ordinary inputs, the edges that the document names, wrong inputs. */
-public final class PromisesTest {
-    private static final int NO_SUCH = -1, BAD_VALUE = -2, BAD_TEXT = -3, TOO_MANY = -4, NOT_POSSIBLE = -5, NONE = -6;
-    private static final int[] NO_CELLS = {-1, -6, 35, 70, Integer.MIN_VALUE, Integer.MAX_VALUE};
-    private static final int[] NO_DOORS = {-1, -6, 4, 35, Integer.MIN_VALUE, Integer.MAX_VALUE};
-    private static int wrong = 0;
-    private static String part = "";
-
-    private static void due(String call, int got, int want) {
-        if (got != want) {
-            wrong++;
-            System.out.println(part + ": " + call + " answered " + got + ", due is " + want);
-        }
-    }
-
+public final class PromisesTest extends Checks {
     public static void main(String[] args) {
         constants();
         newObject();
@@ -53,35 +40,7 @@ public final class PromisesTest {
         undoOfEachChange();
         save();
         restore();
-        errorsChangeNothing();
-        System.out.println(wrong == 0 ? "all answers are as due" : wrong + " answers are not as due");
-        if (wrong != 0) {
-            System.exit(1);
-        }
-    }
-
-    /** Puts a text of any length, in pieces. */
-    private static void type(RopedHalls x, String text) {
-        for (int start = 0; start < text.length(); start += 8) {
-            String piece = text.substring(start, Math.min(text.length(), start + 8));
-            x.put(number(piece));
-        }
-    }
-
-    private static long number(String piece) {
-        long characters = 0;
-        for (char one : piece.toCharArray()) {
-            characters = characters << 8 | one;
-        }
-        return characters;
-    }
-
-    /** Two full cells whose guards send the people of each to the other one: with ROOM 1 nobody ever goes. */
-    private static void block(RopedHalls x, int left) {
-        x.guard(left, 3);
-        x.guard(left + 1, 0);
-        x.enter(left, 1);
-        x.enter(left + 1, 1);
+        finish();
     }
 
     private static void constants() {
@@ -683,10 +642,7 @@ public final class PromisesTest {
         }
         part = "promise 13, the longest way";
         x = new RopedHalls();
-        for (int i = 0; i < 24; i++) {
-            int row = i / 6;
-            x.rope(7 * row + (row % 2 == 0 ? 0 : 1) + i % 6, 1, true);
-        }
+        oneLongWay(x);
         due("distance(34, 0)", x.distance(34, 0), 34);
         x.open(3, false);
         due("cell(34, 2)", x.cell(34, 2), 34);
@@ -1127,54 +1083,5 @@ public final class PromisesTest {
         due("undo()", x.undo(), 4);
         due("cell(4, 4)", x.cell(4, 4), 0);
         due("count(0)", x.count(0), 3);
-    }
-
-    private static int[] look(RopedHalls x) {
-        int[] all = new int[14 + 35 + 24];
-        for (int what = 0; what < 14; what++) {
-            all[what] = x.count(what);
-        }
-        for (int cell = 0; cell < 35; cell++) {
-            all[14 + cell] = x.cell(cell, 0) + 100 * x.cell(cell, 5);
-        }
-        for (int i = 0; i < 24; i++) {
-            all[49 + i] = x.doorOf(i / 6, i % 6);
-        }
-        return all;
-    }
-
-    private static void errorsChangeNothing() {
-        part = "a call that returns an error changes nothing";
-        RopedHalls x = new RopedHalls();
-        x.enter(0, 6);
-        x.enter(1, 5);
-        x.rope(1, 1, true);
-        x.pass(1);
-        type(x, "a1:1,b");
-        int[] before = look(x);
-        x.setRoom(0);
-        x.setRoom(2);
-        x.rope(1, 1, true);
-        x.rope(6, 0, true);
-        x.rope(2, 1, false);
-        x.door(0, 35, 2);
-        x.door(0, 3, 0);
-        x.open(0, true);
-        x.open(1, false);
-        x.guard(0, 7);
-        x.enter(0, 20);
-        x.enter(0, 0);
-        x.read();
-        x.pass(0);
-        x.pass(100);
-        x.put(0);
-        x.put(0x6100);
-        x.save(2);
-        x.restore(0);
-        x.restore(7);
-        int[] after = look(x);
-        for (int i = 0; i < before.length; i++) {
-            due("number " + i + " of all that can be looked at", after[i], before[i]);
-        }
     }
 }
