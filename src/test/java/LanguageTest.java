@@ -2,6 +2,7 @@ import com.sun.source.tree.ClassTree;
 import com.sun.source.tree.CompilationUnitTree;
 import com.sun.source.tree.LineMap;
 import com.sun.source.tree.MemberSelectTree;
+import com.sun.source.tree.MethodInvocationTree;
 import com.sun.source.tree.MethodTree;
 import com.sun.source.tree.NewArrayTree;
 import com.sun.source.tree.NewClassTree;
@@ -9,16 +10,22 @@ import com.sun.source.tree.Tree;
 import com.sun.source.tree.VariableTree;
 import com.sun.source.util.JavacTask;
 import com.sun.source.util.SourcePositions;
+import com.sun.source.util.TreePath;
 import com.sun.source.util.TreePathScanner;
 import com.sun.source.util.Trees;
 import java.lang.reflect.Member;
 import java.lang.reflect.Method;
 import java.lang.reflect.Modifier;
+import java.util.ArrayList;
 import java.util.Arrays;
 import java.util.EnumSet;
+import java.util.LinkedHashMap;
+import java.util.LinkedHashSet;
 import java.util.List;
+import java.util.Map;
 import java.util.Set;
 import java.util.TreeSet;
+import javax.lang.model.element.Element;
 import javax.lang.model.element.Name;
 import javax.tools.JavaCompiler;
 import javax.tools.StandardJavaFileManager;
@@ -105,8 +112,73 @@ public final class LanguageTest {
         try (StandardJavaFileManager files = compiler.getStandardFileManager(null, null, null)) {
             JavacTask task = (JavacTask) compiler.getTask(null, files, null, null, null,
                     files.getJavaFileObjects(SOURCE));
-            for (CompilationUnitTree unit : task.parse()) {
+            Calls calls = new Calls(Trees.instance(task));
+            Iterable<? extends CompilationUnitTree> units = task.parse();
+            task.analyze();
+            for (CompilationUnitTree unit : units) {
                 new Reader(unit, Trees.instance(task).getSourcePositions()).scan(unit, null);
+                calls.scan(unit, null);
+            }
+            calls.check();
+        }
+    }
+
+    /** Which method calls which one, the library's among them. */
+    private static final class Calls extends TreePathScanner<Void, Void> {
+        private static final int DEEPEST = 8;
+        private final Trees trees;
+        private final Map<Element, Set<Element>> called = new LinkedHashMap<>();
+        private Element caller;
+
+        Calls(Trees trees) {
+            this.trees = trees;
+        }
+
+        @Override
+        public Void visitMethod(MethodTree tree, Void none) {
+            caller = trees.getElement(getCurrentPath());
+            called.put(caller, new LinkedHashSet<>());
+            super.visitMethod(tree, none);
+            caller = null;
+            return null;
+        }
+
+        private void call(TreePath path) {
+            if (caller != null) {
+                called.get(caller).add(trees.getElement(path));
+            }
+        }
+
+        @Override
+        public Void visitMethodInvocation(MethodInvocationTree tree, Void none) {
+            call(getCurrentPath());
+            return super.visitMethodInvocation(tree, none);
+        }
+
+        @Override
+        public Void visitNewClass(NewClassTree tree, Void none) {
+            call(getCurrentPath());
+            return super.visitNewClass(tree, none);
+        }
+
+        void check() {
+            rule(11, called.size() > FACE.size(), "the methods of the source are not seen");
+            for (Element method : called.keySet()) {
+                follow(method, List.of());
+            }
+        }
+
+        /** Follows every chain of calls down to its end; the chain is what stands open already. */
+        private void follow(Element method, List<Element> open) {
+            if (open.contains(method)) {
+                rule(8, false, "calls itself: " + open + ", " + method);
+                return;
+            }
+            List<Element> chain = new ArrayList<>(open);
+            chain.add(method);
+            rule(11, chain.size() <= DEEPEST, "calls too deep: " + chain);
+            for (Element next : called.getOrDefault(method, Set.of())) {
+                follow(next, chain);
             }
         }
     }

@@ -40,6 +40,7 @@ public final class PromisesTest extends Checks {
         undoOfEachChange();
         save();
         restore();
+        readme();
         finish();
     }
 
@@ -1083,5 +1084,25 @@ public final class PromisesTest extends Checks {
         due("undo()", x.undo(), 4);
         due("cell(4, 4)", x.cell(4, 4), 0);
         due("count(0)", x.count(0), 3);
+    }
+
+    /** The example of README.md, call by call; who changes one of both changes the other. */
+    private static void readme() {
+        part = "README.md, Using it";
+        RopedHalls x = new RopedHalls();
+        due("enter(17, 6)", x.enter(17, 6), 6);
+        due("rope(16, 0, true)", x.rope(16, 0, true), 1);
+        due("cell(17, 1)", x.cell(17, 1), 0);
+        due("cell(17, 3)", x.cell(17, 3), 10);
+        due("untilOut()", x.untilOut(), 11);
+        due("bestRope(0)", x.bestRope(0), 0);
+        due("pass(10)", x.pass(10), 5);
+        due("count(2)", x.count(2), 1);
+        due("enter(0, 7)", x.enter(0, 7), TOO_MANY);
+        due("undo()", x.undo(), 2);
+        due("count(1), as if they had not passed", x.count(1), 0);
+        due("put of the text a1:6", x.put('a' << 24 | '1' << 16 | ':' << 8 | '6'), 4);
+        due("read()", x.read(), 6);
+        due("cell(0, 0)", x.cell(0, 0), 6);
     }
 }

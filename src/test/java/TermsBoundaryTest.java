@@ -547,6 +547,18 @@ public final class TermsBoundaryTest extends Checks {
             due("count(5)", x.count(5), 5 + 6);
             due("count(6)", x.count(6), 2);
         });
+        test("The cells get their turns: one each, also if there were more of them before", x -> {
+            for (int cell = 1; cell <= 29; cell += 7) {
+                x.enter(cell, 6);
+            }
+            x.enter(0, 6);
+            due("cell(29, 3)", x.cell(29, 3), 22);
+            x.open(1, true);
+            due("pass(1)", x.pass(1), 1);
+            due("cell(29, 0)", x.cell(29, 0), 5);
+            due("count(5)", x.count(5), 5 * 5);
+            due("count(6)", x.count(6), 5);
+        });
         test("Of several the lowest number first", x -> {
             x.enter(0, 6);
             x.enter(1, 1);
